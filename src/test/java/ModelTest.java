@@ -105,8 +105,8 @@ public final class ModelTest {
 
     private double between(double low, double high, double... usual) {
         if (wrong()) {
-            double[] odd = {Math.nextDown(low), Math.nextUp(high), low, high, Double.NaN, -0.0, -1.0,
-                Double.POSITIVE_INFINITY, Double.NEGATIVE_INFINITY, Double.MIN_VALUE};
+            double[] odd = {Math.nextDown(low), Math.nextUp(high), low, high, Double.NaN, -0.0,
+                -1.0, Double.POSITIVE_INFINITY, Double.NEGATIVE_INFINITY, Double.MIN_VALUE};
             return odd[random.nextInt(odd.length)];
         }
         if (random.nextInt(3) > 0) {
