@@ -7,8 +7,19 @@ final class Check {
 
     private static int checks = 0;
     private static int wrong = 0;
+    /** The sentence of the document that the checks from here on hold, empty if none was named. */
+    private static String sentence = "";
 
     private Check() {
+    }
+
+    /** The checks from here on hold this sentence, which stands in the document as it is here. */
+    static void sentence(int promise, String words) {
+        sentence = "[promise " + promise + ": " + words + "] ";
+        checks++;
+        if (!Document.says(promise, words)) {
+            fail("the document does not say this");
+        }
     }
 
     static void same(String what, long got, long want) {
@@ -61,7 +72,7 @@ final class Check {
     static void fail(String message) {
         wrong++;
         if (wrong <= 50) {
-            System.out.println(message);
+            System.out.println(sentence + message);
         }
     }
 

@@ -77,13 +77,15 @@ public final class FaceTest {
     }
 
     private static void privateNames(Class<?> face, TreeSet<String> publicNames) {
-        for (Method m : face.getDeclaredMethods()) {
-            if (Modifier.isPrivate(m.getModifiers())) {
-                Check.same(m + " bears a public name", publicNames.contains(m.getName()), false);
-            }
-        }
+        privateNamesOf(face, publicNames);
         for (Class<?> inside : face.getDeclaredClasses()) {
-            for (Method m : inside.getDeclaredMethods()) {
+            privateNamesOf(inside, publicNames);
+        }
+    }
+
+    private static void privateNamesOf(Class<?> one, TreeSet<String> publicNames) {
+        for (Method m : one.getDeclaredMethods()) {
+            if (Modifier.isPrivate(m.getModifiers())) {
                 Check.same(m + " bears a public name", publicNames.contains(m.getName()), false);
             }
         }
