@@ -482,8 +482,8 @@ public final class UndoEdgesTest {
 
     private static void digestOfDoubles() {
         Check.sentence(31, "of a double, v is Double.doubleToLongBits of it.");
-        double[] impedances = {0.01, Math.nextUp(0.01), 0.1, 0.5, Math.nextDown(1.0), 1.0,
-            Math.nextUp(1.0), 2.0, 3.3, 999.9999999999999, 1000.0};
+        double[] impedances = {0.01, Math.nextUp(0.01), 0.1, 0.5, 1.0 - 2e-10, 1.0 - 0x1p-52,
+            Math.nextDown(1.0), 1.0, Math.nextUp(1.0), 2.0, 3.3, 999.9999999999999, 1000.0};
         double[] voltages = {100.0, 127.99999999999999, 128.0, 54321.123456789, 1000000.0};
         for (double ohms : impedances) {
             for (double volts : voltages) {
