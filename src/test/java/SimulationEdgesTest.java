@@ -33,9 +33,11 @@ public final class SimulationEdgesTest {
         shotsAreUsedUp();
         shotsInTheWholeSimulation();
         shotsOfTheGreatest();
+        shotsOfTheGreatestOfALaterRound();
         shotsOfTheGreatestOfTwelve();
         closingIsBehindItsOwnOpening();
         fiftyNineEvents();
+        sixtyEventsOfSixtyAndOfSixtyOne();
         sixtyEventsOfSixtyTwo();
         sixtyEventsAndTheRest();
         eventsRemovedFirst();
@@ -449,6 +451,49 @@ public final class SimulationEdgesTest {
         }
     }
 
+    /** Relay 1 trips so near c that the rounding of a later round may let it open too. */
+    private static void shotsOfTheGreatestOfALaterRound() {
+        Check.sentence(22, "the breaker with the greatest number among those that opened in this "
+            + "round");
+        boolean later = false;
+        double voltage = 200.0 * (1.0 + 0.05 * 1 * 13.5 / (0.05 * 2 + 0.06));
+        for (int i = 0; i < 50; i++) {
+            voltage = Math.nextDown(voltage);
+        }
+        for (int i = 0; i < 100; i++) {
+            voltage = Math.nextUp(voltage);
+            int round = opensWithRelayOne(voltage, 0);
+            Check.same("the shots do not matter for that", opensWithRelayOne(voltage, 1), round);
+            later |= round > 0 && round < 4;
+        }
+        Check.same("relay 1 opened in a later round", later, true);
+    }
+
+    /** The round in which relay 1 opens beside relay 0, 4 if there is none. */
+    private static int opensWithRelayOne(double voltage, int shots) {
+        FeederProtection x = Edges.chain(2);
+        x.setSource(voltage, 1.0);
+        x.setRelay(0, 100, 0, 2);
+        x.setRelay(1, 100, FeederProtection.VERY_INVERSE, 1);
+        x.setShots(0, 3);
+        x.setShots(1, shots);
+        double nearC = 0.05 * 1 * 13.5 / (voltage / 2.0 / 100 - 1.0);
+        int round = 0;
+        double time = 0.0;
+        while (round < 4 && time + nearC >= time + 0.05 * 2 + 0.06) {
+            time = time + 0.05 * 2 + 0.06 + 0.5;
+            round++;
+        }
+        boolean both = round < 4;
+        Check.same("in round " + round + ": events", x.simulate(1, 0, 1000.0),
+            both ? 3 * round + 4 + shots : 11);
+        Check.same("in round " + round + ": the last event", x.event(x.eventCount() - 1),
+            !both ? 200 : shots == 1 ? 301 : 201);
+        Check.same("in round " + round + ": openBreakers()", x.openBreakers(),
+            both && shots == 0 ? 3 : 1);
+        return round;
+    }
+
     private static void shotsOfTheGreatestOfTwelve() {
         Check.sentence(22, "the event CLOSE is recorded for it");
         FeederProtection x = Edges.chain(12);
@@ -499,6 +544,52 @@ public final class SimulationEdgesTest {
         FeederProtection y = stuckBehindZero(6, 3);
         y.simulate(11, 0, 1000.0);
         Check.same("none behind it", Check.thrownBy(() -> y.event(59)), Edges.INDEX.getName());
+    }
+
+    /**
+     * Rounds that are all alike have never just 60 events. But relay 11 trips so near c here that
+     * the rounding of the times decides, round by round, whether it is taken.
+     */
+    private static void sixtyEventsOfSixtyAndOfSixtyOne() {
+        Check.sentence(22, "At most 60 events are recorded; later ones are not recorded, but have "
+            + "all other effects.");
+        boolean sixty = false;
+        boolean sixtyOne = false;
+        double voltage = 1200.0 * (1.0 + 0.05 * 1 * 13.5 / (0.05 * 2 + 0.06));
+        for (int i = 0; i < 50; i++) {
+            voltage = Math.nextDown(voltage);
+        }
+        for (int i = 0; i < 100; i++) {
+            voltage = Math.nextUp(voltage);
+            sixty |= dueAroundSixty(voltage, 8, 2) == 60;
+            sixtyOne |= dueAroundSixty(voltage, 6, 3) == 61;
+        }
+        Check.same("just 60 were due", sixty, true);
+        Check.same("just 61 were due", sixtyOne, true);
+    }
+
+    /** How many events are due, recorded or not. */
+    private static int dueAroundSixty(double voltage, int stuck, int shots) {
+        FeederProtection x = stuckBehindZero(stuck, shots);
+        x.setSource(voltage, 1.0);
+        x.setRelay(0, 100, 0, 2);
+        x.setRelay(11, 100, FeederProtection.VERY_INVERSE, 1);
+        double nearC = 0.05 * 1 * 13.5 / (voltage / 12.0 / 100 - 1.0);
+        int due = shots;
+        double time = 0.0;
+        double c = 0.0;
+        for (int round = 0; round <= shots; round++) {
+            c = time + 0.05 * 2 + 0.06;
+            due += 2 + 2 * stuck + (time + nearC < c ? 2 : 0);
+            time = c + 0.5;
+        }
+        int kept = Math.min(due, 60);
+        Check.same("of " + due, x.simulate(11, 0, 1000.0), kept);
+        Check.same("of " + due + ": the last one kept is the last opening",
+            x.event(kept - 1) == 200, due <= 60);
+        Check.same("of " + due + ": clearedTime()", x.clearedTime(), c);
+        Check.same("of " + due + ": openBreakers()", x.openBreakers(), 1);
+        return due;
     }
 
     private static void sixtyEventsOfSixtyTwo() {
